@@ -600,8 +600,8 @@ public final class PutAwayAssign {
         /** DIGITS to the power of ROWS. */
         private static final long PLANS = 815730721L;
         private static final long WITHOUT = ROWS * (long) MOST_COST + 1;
-        /** More than all groups without places, so that no least plan has it. */
-        private static final long FORBIDDEN = (ROWS + 1) * WITHOUT;
+        /** Dearer than to go without a place, which each row always can: so no best plan has it. */
+        private static final long FORBIDDEN = WITHOUT + 1;
 
         private final long[][] prices = new long[ROWS + 1][COLUMNS + 1];
         private final long[] rowShift = new long[ROWS + 1];

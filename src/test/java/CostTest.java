@@ -127,6 +127,8 @@ public final class CostTest {
         check.refused("share(1) of 0, not planned", STATE, () -> x.share(1));
         check.refused("share(2) of 0, missing", MISSING, () -> x.share(2));
         check.due("at(0) behind refusals", x.at(0), 0);
+        x.cost(0, 0, 1);
+        check.due("share(0) of 1 in 1", x.share(0), 100);
     }
 
     private static void promise18AsCostsAreNow() {

@@ -113,8 +113,11 @@ public final class DoingTest {
         x.put(1);
         check.due("block(5)", x.block(5), 1);
         check.due("at(0), where the done one is", x.at(0), 1);
+        x.open(0);
+        check.due("block(1)", x.block(1), 1);
+        check.due("at(0), the lowest place", x.at(0), 0);
         x.fix(2, 5);
-        check.due("block(1), fixed at a blocked place", x.block(1), 0);
+        check.due("block(0), fixed at a blocked place", x.block(0), 0);
         check.due("at(2), none", x.at(2), -1);
     }
 

@@ -10,6 +10,8 @@ public final class PlanTest {
         promise9AnyNumberOfExactGroups();
         promise10Most();
         promise10AsManyGroupsAsPossible();
+        promise10OneMoreGroupAtTheGreatestCost();
+        promise10EightGroupsAndFewPlaces();
         promise10TheLeastSum();
         promise10TheFirstOfEqualPlans();
         promise10OneByOne();
@@ -114,6 +116,42 @@ public final class PlanTest {
         x.block(0);
         check.due("no place", x.assign(0), 0);
         planIs("no place", x, -1, -1, -1);
+    }
+
+    /** Seven groups would cost nothing; the eighth gets a place only if all of them move on. */
+    private static void promise10OneMoreGroupAtTheGreatestCost() {
+        PutAwayAssign x = withUnitsAndPlaces(8, 8);
+        x.limits(8, 100);
+        for (int u = 0; u < 8; u++) {
+            for (int p = 0; p < 8; p++) {
+                boolean may = u == 7 ? p == 0 : p == u || p == u + 1;
+                x.fits(u, p, may);
+                x.cost(u, p, p == u ? 0 : 1000000);
+            }
+        }
+        check.due("all eight at the greatest cost", x.assign(8000000), 8000000);
+        planIs("all eight at the greatest cost", x, 1, 2, 3, 4, 5, 6, 7, 0);
+        x.fits(7, 0, false);
+        check.due("seven at no cost", x.assign(8000000), 0);
+        planIs("seven at no cost", x, 0, 1, 2, 3, 4, 5, 6, -1);
+    }
+
+    private static void promise10EightGroupsAndFewPlaces() {
+        for (int places = 0; places <= 3; places++) {
+            PutAwayAssign x = withUnitsAndPlaces(8, places);
+            x.limits(8, 100);
+            for (int from = 0; from < 8; from++) {
+                check.due("eight groups, " + places + " places", x.assign(1000),
+                        90 * Math.min(places, 8 - from));
+                for (int u = 0; u < 8; u++) {
+                    int place = u < from || u - from >= places ? -1 : u - from;
+                    check.due("eight groups, " + places + " places from " + from + ", at(" + u + ")", x.at(u), place);
+                }
+                for (int p = 0; p < places; p++) {
+                    x.fits(from, p, false);
+                }
+            }
+        }
     }
 
     private static void promise10TheLeastSum() {
