@@ -18,19 +18,8 @@ public final class DoingTest {
         check.end();
     }
 
-    private static PutAwayAssign withUnitsAndPlaces(int units, int places) {
-        PutAwayAssign x = new PutAwayAssign();
-        for (int u = 0; u < units; u++) {
-            x.unit(0, 10);
-        }
-        for (int p = 0; p < places; p++) {
-            x.place(1, 0, 100, p);
-        }
-        return x;
-    }
-
     private static void promise15Put() {
-        PutAwayAssign x = withUnitsAndPlaces(4, 2);
+        PutAwayAssign x = Made.with(4, 2, 1);
         check.refused("put(0), not planned", STATE, () -> x.put(0));
         x.together(1, 3);
         x.together(1, 2);
@@ -55,7 +44,7 @@ public final class DoingTest {
     }
 
     private static void promise15RulesAnyMore() {
-        PutAwayAssign x = withUnitsAndPlaces(2, 2);
+        PutAwayAssign x = Made.with(2, 2, 1);
         x.together(0, 1);
         x.fix(0, 0);
         x.assign(1000);
@@ -69,7 +58,7 @@ public final class DoingTest {
         check.due("at(0), still planned", x.at(0), 0);
         x.fits(1, 0, true);
         check.due("put(0), allowed again", x.put(0), 2);
-        PutAwayAssign y = withUnitsAndPlaces(1, 1);
+        PutAwayAssign y = Made.with(1, 1, 1);
         y.assign(1000);
         y.block(0);
         y.open(0);
@@ -77,7 +66,7 @@ public final class DoingTest {
     }
 
     private static void promise16Block() {
-        PutAwayAssign x = withUnitsAndPlaces(2, 4);
+        PutAwayAssign x = Made.with(2, 4, 1);
         x.assign(1000);
         check.due("block(3), none planned", x.block(3), 0);
         check.due("at(0) stays", x.at(0), 0);
@@ -95,7 +84,7 @@ public final class DoingTest {
     }
 
     private static void promise16OneByOne() {
-        PutAwayAssign x = withUnitsAndPlaces(3, 7);
+        PutAwayAssign x = Made.with(3, 7, 1);
         x.together(0, 2);
         x.fix(0, 0);
         x.fix(1, 1);
@@ -122,7 +111,7 @@ public final class DoingTest {
     }
 
     private static void promise17Open() {
-        PutAwayAssign x = withUnitsAndPlaces(1, 2);
+        PutAwayAssign x = Made.with(1, 2, 1);
         check.refused("open(0), not blocked", STATE, () -> x.open(0));
         x.block(0);
         x.assign(1000);

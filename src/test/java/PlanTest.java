@@ -22,17 +22,6 @@ public final class PlanTest {
         check.end();
     }
 
-    private static PutAwayAssign withUnitsAndPlaces(int units, int places) {
-        PutAwayAssign x = new PutAwayAssign();
-        for (int u = 0; u < units; u++) {
-            x.unit(0, 10);
-        }
-        for (int p = 0; p < places; p++) {
-            x.place(1, 0, 100, 0);
-        }
-        return x;
-    }
-
     private static void costs(PutAwayAssign x, int unit, int... costs) {
         for (int p = 0; p < costs.length; p++) {
             x.cost(unit, p, costs[p]);
@@ -46,7 +35,7 @@ public final class PlanTest {
     }
 
     private static void promise9Limits() {
-        PutAwayAssign x = withUnitsAndPlaces(1, 1);
+        PutAwayAssign x = Made.with(1, 1, 0);
         int[][] wrong = {{-1, 1}, {9, 1}, {0, 0}, {0, 1001}, {0, -1},
             {Integer.MAX_VALUE, 1}, {1, Integer.MAX_VALUE}, {Integer.MIN_VALUE, 1}};
         x.limits(0, 1);
@@ -63,14 +52,14 @@ public final class PlanTest {
 
     private static void promise9AnyNumberOfExactGroups() {
         for (int groups = 0; groups <= 12; groups++) {
-            PutAwayAssign x = withUnitsAndPlaces(groups, 3);
+            PutAwayAssign x = Made.with(groups, 3, 0);
             for (int exact = 0; exact <= 8; exact++) {
                 x.limits(exact, 100);
                 x.assign(100000);
                 check.due("exact() of " + groups + " at " + exact, x.exact(), groups <= exact);
             }
         }
-        PutAwayAssign y = withUnitsAndPlaces(4, 3);
+        PutAwayAssign y = Made.with(4, 3, 0);
         y.limits(3, 100);
         y.together(0, 3);
         y.assign(100000);
@@ -78,7 +67,7 @@ public final class PlanTest {
     }
 
     private static void promise10Most() {
-        PutAwayAssign x = withUnitsAndPlaces(2, 2);
+        PutAwayAssign x = Made.with(2, 2, 0);
         costs(x, 0, 5, 1);
         costs(x, 1, 7, 1);
         x.limits(0, 100);
@@ -100,7 +89,7 @@ public final class PlanTest {
     }
 
     private static void promise10AsManyGroupsAsPossible() {
-        PutAwayAssign x = withUnitsAndPlaces(3, 3);
+        PutAwayAssign x = Made.with(3, 3, 0);
         costs(x, 0, 0, 1000000, 1000000);
         costs(x, 1, 0, 1000000, 1000000);
         costs(x, 2, 0, 1000000, 1000000);
@@ -120,7 +109,7 @@ public final class PlanTest {
 
     /** Seven groups would cost nothing; the eighth gets a place only if all of them move on. */
     private static void promise10OneMoreGroupAtTheGreatestCost() {
-        PutAwayAssign x = withUnitsAndPlaces(8, 8);
+        PutAwayAssign x = Made.with(8, 8, 0);
         x.limits(8, 100);
         for (int u = 0; u < 8; u++) {
             for (int p = 0; p < 8; p++) {
@@ -138,7 +127,7 @@ public final class PlanTest {
 
     private static void promise10EightGroupsAndFewPlaces() {
         for (int places = 0; places <= 3; places++) {
-            PutAwayAssign x = withUnitsAndPlaces(8, places);
+            PutAwayAssign x = Made.with(8, places, 0);
             x.limits(8, 100);
             for (int from = 0; from < 8; from++) {
                 check.due("eight groups, " + places + " places", x.assign(1000),
@@ -155,7 +144,7 @@ public final class PlanTest {
     }
 
     private static void promise10TheLeastSum() {
-        PutAwayAssign x = withUnitsAndPlaces(4, 3);
+        PutAwayAssign x = Made.with(4, 3, 0);
         costs(x, 0, 10, 20, 30);
         costs(x, 1, 10, 12, 90);
         costs(x, 2, 10, 11, 13);
@@ -165,7 +154,7 @@ public final class PlanTest {
     }
 
     private static void promise10TheFirstOfEqualPlans() {
-        PutAwayAssign x = withUnitsAndPlaces(4, 3);
+        PutAwayAssign x = Made.with(4, 3, 0);
         check.due("all equal", x.assign(1000), 270);
         planIs("all equal", x, 0, 1, 2, -1);
         x.fits(0, 0, false);
@@ -175,7 +164,7 @@ public final class PlanTest {
         x.fits(1, 2, false);
         x.assign(1000);
         planIs("none is behind all", x, 1, -1, 0, 2);
-        PutAwayAssign y = withUnitsAndPlaces(2, 2);
+        PutAwayAssign y = Made.with(2, 2, 0);
         costs(y, 0, 3, 2);
         costs(y, 1, 4, 3);
         y.assign(1000);
@@ -183,14 +172,14 @@ public final class PlanTest {
         y.fits(1, 1, false);
         y.assign(1000);
         planIs("no choice", y, 1, 0);
-        PutAwayAssign z = withUnitsAndPlaces(8, 12);
+        PutAwayAssign z = Made.with(8, 12, 0);
         z.limits(8, 100);
         z.assign(1000);
         planIs("eight equal groups", z, 0, 1, 2, 3, 4, 5, 6, 7);
     }
 
     private static void promise10OneByOne() {
-        PutAwayAssign x = withUnitsAndPlaces(4, 3);
+        PutAwayAssign x = Made.with(4, 3, 0);
         x.limits(3, 100);
         costs(x, 0, 2, 1, 1);
         costs(x, 1, 5, 0, 8);
@@ -210,7 +199,7 @@ public final class PlanTest {
     }
 
     private static void promise10LargestPlans() {
-        PutAwayAssign x = withUnitsAndPlaces(8, 12);
+        PutAwayAssign x = Made.with(8, 12, 0);
         x.limits(8, 100);
         for (int u = 0; u < 8; u++) {
             for (int p = 0; p < 12; p++) {
@@ -224,7 +213,7 @@ public final class PlanTest {
         }
         check.due("each less by one", x.assign(8000000), 7999992);
         planIs("each less by one", x, 11, 10, 9, 8, 7, 6, 5, 4);
-        PutAwayAssign y = withUnitsAndPlaces(12, 12);
+        PutAwayAssign y = Made.with(12, 12, 0);
         for (int u = 0; u < 12; u++) {
             for (int p = 0; p < 12; p++) {
                 y.cost(u, p, 1000000 - (p > 11 - u ? 0 : p));
@@ -234,7 +223,7 @@ public final class PlanTest {
     }
 
     private static void promise10DoneUnitsStay() {
-        PutAwayAssign x = withUnitsAndPlaces(3, 2);
+        PutAwayAssign x = Made.with(3, 2, 0);
         x.assign(1000);
         x.put(0);
         check.due("without the done one", x.assign(1000), 80 + 90);
@@ -242,7 +231,7 @@ public final class PlanTest {
     }
 
     private static void promise11At() {
-        PutAwayAssign x = withUnitsAndPlaces(2, 1);
+        PutAwayAssign x = Made.with(2, 1, 0);
         check.due("at(0) before", x.at(0), -1);
         x.assign(1000);
         check.due("at(0) planned", x.at(0), 0);
@@ -259,7 +248,7 @@ public final class PlanTest {
     }
 
     private static void promise12Exact() {
-        PutAwayAssign x = withUnitsAndPlaces(3, 3);
+        PutAwayAssign x = Made.with(3, 3, 0);
         check.due("exact() before", x.exact(), false);
         x.assign(0);
         check.due("exact() behind a plan that costs too much", x.exact(), false);

@@ -16,19 +16,8 @@ public final class RulesTest {
         check.end();
     }
 
-    private static PutAwayAssign withUnitsAndPlaces(int units, int places) {
-        PutAwayAssign x = new PutAwayAssign();
-        for (int u = 0; u < units; u++) {
-            x.unit(0, 10);
-        }
-        for (int p = 0; p < places; p++) {
-            x.place(255, 0, 100, p);
-        }
-        return x;
-    }
-
     private static void promise5Fits() {
-        PutAwayAssign x = withUnitsAndPlaces(2, 2);
+        PutAwayAssign x = Made.with(2, 2, 1);
         x.assign(1000);
         check.due("at(0) at first", x.at(0), 0);
         x.fits(0, 0, false);
@@ -55,7 +44,7 @@ public final class RulesTest {
     }
 
     private static void promise7Together() {
-        PutAwayAssign x = withUnitsAndPlaces(6, 6);
+        PutAwayAssign x = Made.with(6, 6, 1);
         x.assign(10000);
         check.due("together(4, 2)", x.together(4, 2), 2);
         check.due("at(4), not planned", x.at(4), -1);
@@ -84,7 +73,7 @@ public final class RulesTest {
     }
 
     private static void promise7GroupsHaveTheLeastNumber() {
-        PutAwayAssign x = withUnitsAndPlaces(4, 2);
+        PutAwayAssign x = Made.with(4, 2, 1);
         x.together(3, 1);
         x.assign(10000);
         check.due("told(0, 3) of 0", x.told(0, 3), 0);
@@ -99,7 +88,7 @@ public final class RulesTest {
     }
 
     private static void promise8Fix() {
-        PutAwayAssign x = withUnitsAndPlaces(3, 3);
+        PutAwayAssign x = Made.with(3, 3, 1);
         x.fix(0, 2);
         x.assign(1000);
         check.due("at(0), fixed", x.at(0), 2);
