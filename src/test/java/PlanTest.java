@@ -1,116 +1,106 @@
 import java.util.NoSuchElementException;
 
-/** Promises 9 to 12: limits, plans that are best or made one by one, and what is told of them. */
+/** Terms: a plan, a best one and one made one by one; promises 10 to 12: assign, at and exact. */
 public final class PlanTest {
     private static final Check check = new Check("PlanTest");
     private static final Class<IllegalArgumentException> ARGUMENT = IllegalArgumentException.class;
+    private static final Class<NoSuchElementException> MISSING = NoSuchElementException.class;
 
     public static void main(String[] args) {
-        promise9Limits();
-        promise9AnyNumberOfExactGroups();
-        promise10Most();
-        promise10AsManyGroupsAsPossible();
-        promise10OneMoreGroupAtTheGreatestCost();
-        promise10EightGroupsAndFewPlaces();
-        promise10TheLeastSum();
-        promise10TheFirstOfEqualPlans();
-        promise10OneByOne();
-        promise10LargestPlans();
-        promise10DoneUnitsStay();
-        promise11At();
-        promise12Exact();
+        eachPlaceToOneGroup();
+        placesThatRulesAllow();
+        asManyGroupsAsPossible();
+        asManyGroupsAtTheGreatestCost();
+        asManyGroupsWithFewPlaces();
+        theLeastSum();
+        theLeastSumOfLargeCosts();
+        theFirstOfEqualPlans();
+        noneIsBehindAll();
+        thenTheNextOne();
+        oneByOneInOrder();
+        oneByOneTheLowest();
+        oneByOneOrNone();
+        promise10PlannedAnew();
+        promise10NoMoreThanTheLimit();
+        promise10TheSum();
+        promise10AboveMost();
+        promise10MostBelowZero();
+        promise11PlannedFor();
+        promise11AtWhichItWasDone();
+        promise11None();
+        promise11NoSuchUnit();
+        promise12MadeAsABestOne();
+        promise12FalseBefore();
         check.end();
     }
 
-    private static void costs(PutAwayAssign x, int unit, int... costs) {
-        for (int p = 0; p < costs.length; p++) {
-            x.cost(unit, p, costs[p]);
+    /** The limit that makes plans of up to 8 groups best, or none of them. */
+    private static PutAwayAssign planning(PutAwayAssign x, boolean best) {
+        x.limits(best ? 8 : 0, 100);
+        return x;
+    }
+
+    private static void eachPlaceToOneGroup() {
+        check.sentence("Terms", "each place to one group at most");
+        for (int best = 0; best <= 1; best++) {
+            PutAwayAssign x = planning(Made.with(3, 2, 1), best == 1);
+            check.due("three groups, two places", x.assign(1000), 90 + 91);
+            check.due("its plan", Made.plan(x), "0 1 -1");
+            x.together(1, 2);
+            x.assign(1000);
+            check.due("a group of two at one place", Made.plan(x), "0 1 1");
+        }
+        PutAwayAssign y = Made.with(12, 12, 0);
+        y.assign(10000);
+        check.due("twelve groups, twelve places", Made.plan(y), "0 1 2 3 4 5 6 7 8 9 10 11");
+    }
+
+    private static void placesThatRulesAllow() {
+        check.sentence("Terms", "A PLAN gives groups places that rules allow");
+        for (int best = 0; best <= 1; best++) {
+            PutAwayAssign x = planning(new PutAwayAssign(), best == 1);
+            x.unit(0, 10);
+            x.place(1, 0, 10, 0);
+            x.place(2, 0, 10, 0);
+            x.place(1, 0, 10, 0);
+            x.place(1, 0, 9, 0);
+            x.place(1, 0, 10, 1000);
+            x.block(0);
+            x.fits(0, 2, false);
+            check.due("the only place that is allowed", x.assign(1000), 1000);
+            check.due("at(0)", x.at(0), 4);
+            x.fix(0, 3);
+            check.due("no place is allowed", x.assign(1000), 0);
+            check.due("at(0)", x.at(0), -1);
         }
     }
 
-    private static void planIs(String what, PutAwayAssign x, int... places) {
-        for (int u = 0; u < places.length; u++) {
-            check.due(what + ", at(" + u + ")", x.at(u), places[u]);
-        }
-    }
-
-    private static void promise9Limits() {
-        PutAwayAssign x = Made.with(1, 1, 0);
-        int[][] wrong = {{-1, 1}, {9, 1}, {0, 0}, {0, 1001}, {0, -1},
-            {Integer.MAX_VALUE, 1}, {1, Integer.MAX_VALUE}, {Integer.MIN_VALUE, 1}};
-        x.limits(0, 1);
-        for (int[] w : wrong) {
-            check.refused("limits(" + w[0] + ", " + w[1] + ")", ARGUMENT, () -> x.limits(w[0], w[1]));
-        }
-        x.assign(1000);
-        check.due("exact() at 0", x.exact(), false);
-        x.limits(8, 1000);
-        check.due("exact() before it is planned anew", x.exact(), false);
-        x.assign(1000);
-        check.due("exact() at 8", x.exact(), true);
-    }
-
-    private static void promise9AnyNumberOfExactGroups() {
-        for (int groups = 0; groups <= 12; groups++) {
-            PutAwayAssign x = Made.with(groups, 3, 0);
-            for (int exact = 0; exact <= 8; exact++) {
-                x.limits(exact, 100);
-                x.assign(100000);
-                check.due("exact() of " + groups + " at " + exact, x.exact(), groups <= exact);
-            }
-        }
-        PutAwayAssign y = Made.with(4, 3, 0);
-        y.limits(3, 100);
-        y.together(0, 3);
-        y.assign(100000);
-        check.due("exact() of 4 units in 3 groups", y.exact(), true);
-    }
-
-    private static void promise10Most() {
-        PutAwayAssign x = Made.with(2, 2, 0);
-        costs(x, 0, 5, 1);
-        costs(x, 1, 7, 1);
-        x.limits(0, 100);
-        check.due("assign(8)", x.assign(8), 8);
-        planIs("one by one", x, 1, 0);
-        x.limits(8, 100);
-        check.due("assign(5), too much", x.assign(5), -1);
-        planIs("all stays", x, 1, 0);
-        check.due("exact() stays", x.exact(), false);
-        check.due("assign(6)", x.assign(6), 6);
-        planIs("best", x, 0, 1);
-        x.limits(0, 100);
-        check.due("assign(7), too much", x.assign(7), -1);
-        planIs("the best plan stays", x, 0, 1);
-        check.due("exact() stays true", x.exact(), true);
-        check.refused("assign(-1)", ARGUMENT, () -> x.assign(-1));
-        check.refused("assign at the end", ARGUMENT, () -> x.assign(Integer.MIN_VALUE));
-        check.due("assign at the other end", x.assign(Integer.MAX_VALUE), 8);
-    }
-
-    private static void promise10AsManyGroupsAsPossible() {
+    private static void asManyGroupsAsPossible() {
+        check.sentence("Terms", "It is BEST if it gives places to as many groups as possible");
         PutAwayAssign x = Made.with(3, 3, 0);
-        costs(x, 0, 0, 1000000, 1000000);
-        costs(x, 1, 0, 1000000, 1000000);
-        costs(x, 2, 0, 1000000, 1000000);
-        x.fits(1, 2, false);
-        x.fits(2, 1, false);
-        x.fits(2, 2, false);
+        Made.costs(x, 0, 0, 0, 1000000);
+        Made.costs(x, 1, 0, 1000000, 0);
+        Made.costs(x, 2, 0, 0, 0);
+        Made.onlyAt(x, 0, 0, 2);
+        Made.onlyAt(x, 1, 0, 1);
+        Made.onlyAt(x, 2, 0);
         check.due("all, at any cost", x.assign(Integer.MAX_VALUE), 2000000);
-        planIs("all, at any cost", x, 2, 1, 0);
-        x.block(1);
+        check.due("all, at any cost", Made.plan(x), "2 1 0");
         x.block(2);
-        check.due("one place alone", x.assign(Integer.MAX_VALUE), 0);
-        planIs("one place alone", x, 0, -1, -1);
+        check.due("two, at any cost", x.assign(Integer.MAX_VALUE), 1000000);
+        check.due("two, at any cost", Made.plan(x), "0 1 -1");
+        x.block(1);
+        check.due("one", x.assign(Integer.MAX_VALUE), 0);
+        check.due("one", Made.plan(x), "0 -1 -1");
         x.block(0);
-        check.due("no place", x.assign(0), 0);
-        planIs("no place", x, -1, -1, -1);
+        check.due("none", x.assign(0), 0);
+        check.due("none", Made.plan(x), "-1 -1 -1");
     }
 
     /** Seven groups would cost nothing; the eighth gets a place only if all of them move on. */
-    private static void promise10OneMoreGroupAtTheGreatestCost() {
-        PutAwayAssign x = Made.with(8, 8, 0);
-        x.limits(8, 100);
+    private static void asManyGroupsAtTheGreatestCost() {
+        check.sentence("Terms", "It is BEST if it gives places to as many groups as possible");
+        PutAwayAssign x = planning(Made.with(8, 8, 0), true);
         for (int u = 0; u < 8; u++) {
             for (int p = 0; p < 8; p++) {
                 boolean may = u == 7 ? p == 0 : p == u || p == u + 1;
@@ -119,146 +109,361 @@ public final class PlanTest {
             }
         }
         check.due("all eight at the greatest cost", x.assign(8000000), 8000000);
-        planIs("all eight at the greatest cost", x, 1, 2, 3, 4, 5, 6, 7, 0);
+        check.due("all eight at the greatest cost", Made.plan(x), "1 2 3 4 5 6 7 0");
         x.fits(7, 0, false);
         check.due("seven at no cost", x.assign(8000000), 0);
-        planIs("seven at no cost", x, 0, 1, 2, 3, 4, 5, 6, -1);
+        check.due("seven at no cost", Made.plan(x), "0 1 2 3 4 5 6 -1");
     }
 
-    private static void promise10EightGroupsAndFewPlaces() {
+    private static void asManyGroupsWithFewPlaces() {
+        check.sentence("Terms", "It is BEST if it gives places to as many groups as possible");
         for (int places = 0; places <= 3; places++) {
-            PutAwayAssign x = Made.with(8, places, 0);
-            x.limits(8, 100);
+            PutAwayAssign x = planning(Made.with(8, places, 0), true);
             for (int from = 0; from < 8; from++) {
-                check.due("eight groups, " + places + " places", x.assign(1000),
-                        90 * Math.min(places, 8 - from));
+                int given = Math.min(places, 8 - from);
+                check.due(places + " places from group " + from, x.assign(1000), 90 * given);
                 for (int u = 0; u < 8; u++) {
-                    int place = u < from || u - from >= places ? -1 : u - from;
-                    check.due("eight groups, " + places + " places from " + from + ", at(" + u + ")", x.at(u), place);
+                    check.due(places + " places from group " + from + ", at(" + u + ")", x.at(u),
+                            u < from || u >= from + given ? -1 : u - from);
                 }
-                for (int p = 0; p < places; p++) {
-                    x.fits(from, p, false);
-                }
+                Made.onlyAt(x, from);
             }
         }
     }
 
-    private static void promise10TheLeastSum() {
+    private static void theLeastSum() {
+        check.sentence("Terms", "of such plans at the least sum of costs");
         PutAwayAssign x = Made.with(4, 3, 0);
-        costs(x, 0, 10, 20, 30);
-        costs(x, 1, 10, 12, 90);
-        costs(x, 2, 10, 11, 13);
-        costs(x, 3, 9, 50, 60);
-        check.due("the least sum", x.assign(1000), 9 + 12 + 13);
-        planIs("the least sum", x, -1, 1, 2, 0);
+        Made.costs(x, 0, 10, 20, 30);
+        Made.costs(x, 1, 10, 12, 90);
+        Made.costs(x, 2, 10, 11, 13);
+        Made.costs(x, 3, 9, 50, 60);
+        check.due("one goes without", x.assign(1000), 9 + 12 + 13);
+        check.due("the dearest goes without", Made.plan(x), "-1 1 2 0");
+        x.cost(0, 0, 8);
+        check.due("less by one for another", x.assign(1000), 8 + 12 + 13);
+        check.due("less by one for another", Made.plan(x), "0 1 2 -1");
+        PutAwayAssign y = planning(Made.with(8, 12, 0), true);
+        for (int u = 0; u < 8; u++) {
+            for (int p = 0; p < 12; p++) {
+                y.cost(u, p, p == 11 - u ? 1 : 2);
+            }
+        }
+        check.due("each at its own place", y.assign(1000), 8);
+        check.due("each at its own place", Made.plan(y), "11 10 9 8 7 6 5 4");
     }
 
-    private static void promise10TheFirstOfEqualPlans() {
-        PutAwayAssign x = Made.with(4, 3, 0);
-        check.due("all equal", x.assign(1000), 270);
-        planIs("all equal", x, 0, 1, 2, -1);
-        x.fits(0, 0, false);
-        x.assign(1000);
-        planIs("equal but for 0", x, 1, 0, 2, -1);
-        x.fits(1, 0, false);
-        x.fits(1, 2, false);
-        x.assign(1000);
-        planIs("none is behind all", x, 1, -1, 0, 2);
-        PutAwayAssign y = Made.with(2, 2, 0);
-        costs(y, 0, 3, 2);
-        costs(y, 1, 4, 3);
-        y.assign(1000);
-        planIs("equal sums of different costs", y, 0, 1);
-        y.fits(1, 1, false);
-        y.assign(1000);
-        planIs("no choice", y, 1, 0);
-        PutAwayAssign z = Made.with(8, 12, 0);
-        z.limits(8, 100);
-        z.assign(1000);
-        planIs("eight equal groups", z, 0, 1, 2, 3, 4, 5, 6, 7);
-    }
-
-    private static void promise10OneByOne() {
-        PutAwayAssign x = Made.with(4, 3, 0);
-        x.limits(3, 100);
-        costs(x, 0, 2, 1, 1);
-        costs(x, 1, 5, 0, 8);
-        costs(x, 2, 1, 1, 1000000);
-        costs(x, 3, 0, 0, 0);
-        check.due("one by one", x.assign(1000001), -1);
-        planIs("too much", x, -1, -1, -1, -1);
-        check.due("one by one", x.assign(1000006), 1 + 5 + 1000000);
-        planIs("one by one", x, 1, 0, 2, -1);
-        x.fits(1, 0, false);
-        x.fits(1, 2, false);
-        check.due("one has none", x.assign(Integer.MAX_VALUE), 1 + 1 + 0);
-        planIs("one has none", x, 1, -1, 0, 2);
-        x.together(3, 0);
-        check.due("best at three groups", x.assign(Integer.MAX_VALUE), 1 + 0 + 1);
-        planIs("best at three groups", x, 2, 1, 0, 2);
-    }
-
-    private static void promise10LargestPlans() {
-        PutAwayAssign x = Made.with(8, 12, 0);
-        x.limits(8, 100);
+    private static void theLeastSumOfLargeCosts() {
+        check.sentence("Terms", "of such plans at the least sum of costs");
+        PutAwayAssign x = planning(Made.with(8, 12, 0), true);
         for (int u = 0; u < 8; u++) {
             for (int p = 0; p < 12; p++) {
                 x.cost(u, p, 1000000);
             }
         }
         check.due("the greatest sum", x.assign(8000000), 8000000);
-        planIs("the greatest sum", x, 0, 1, 2, 3, 4, 5, 6, 7);
+        check.due("the greatest sum", Made.plan(x), "0 1 2 3 4 5 6 7");
         for (int u = 0; u < 8; u++) {
             x.cost(u, 11 - u, 999999);
         }
         check.due("each less by one", x.assign(8000000), 7999992);
-        planIs("each less by one", x, 11, 10, 9, 8, 7, 6, 5, 4);
+        check.due("each less by one", Made.plan(x), "11 10 9 8 7 6 5 4");
+    }
+
+    private static void theFirstOfEqualPlans() {
+        check.sentence("Terms", "of such ones the first: the first group gets as low a place as possible");
+        PutAwayAssign x = Made.with(2, 2, 0);
+        check.due("all equal", x.assign(1000), 180);
+        check.due("all equal", Made.plan(x), "0 1");
+        Made.costs(x, 0, 3, 2);
+        Made.costs(x, 1, 4, 3);
+        check.due("equal sums of different costs", x.assign(1000), 6);
+        check.due("equal sums of different costs", Made.plan(x), "0 1");
+        x.cost(0, 0, 4);
+        check.due("a lower place, but dearer by one", x.assign(1000), 6);
+        check.due("a lower place, but dearer by one", Made.plan(x), "1 0");
+    }
+
+    private static void noneIsBehindAll() {
+        check.sentence("Terms", "(none is behind all)");
+        PutAwayAssign x = Made.with(2, 0, 0);
+        for (int p = 0; p < 12; p++) {
+            x.place(1, 0, 10, 0);
+        }
+        Made.onlyAt(x, 0, 11);
+        Made.onlyAt(x, 1, 11);
+        x.assign(1000);
+        check.due("the last place comes before none", Made.plan(x), "11 -1");
+        x.fits(0, 0, true);
+        x.cost(0, 0, 0);
+        x.cost(1, 11, 0);
+        x.assign(1000);
+        check.due("a place for both", Made.plan(x), "0 11");
+        PutAwayAssign y = Made.with(4, 3, 0);
+        Made.onlyAt(y, 0, 1, 2);
+        Made.onlyAt(y, 1, 1);
+        y.assign(1000);
+        check.due("1 before none for group 0, none for group 1", Made.plan(y), "1 -1 0 2");
+    }
+
+    private static void thenTheNextOne() {
+        check.sentence("Terms", "then the next one, and so on");
+        PutAwayAssign x = Made.with(3, 4, 0);
+        Made.onlyAt(x, 0, 3);
+        x.assign(1000);
+        check.due("0 has one choice", Made.plan(x), "3 0 1");
+        Made.onlyAt(x, 1, 2);
+        x.assign(1000);
+        check.due("0 and 1 have one choice", Made.plan(x), "3 2 0");
+        PutAwayAssign y = planning(Made.with(8, 12, 0), true);
+        y.assign(1000);
+        check.due("eight equal groups", Made.plan(y), "0 1 2 3 4 5 6 7");
+        for (int u = 0; u < 7; u++) {
+            y.fits(u, u, false);
+        }
+        y.assign(1000);
+        check.due("each of seven not at its own", Made.plan(y), "1 0 3 2 5 4 7 6");
+        y.block(0);
+        y.assign(1000);
+        check.due("the last of eight", Made.plan(y), "1 2 3 4 5 6 7 8");
+    }
+
+    private static void oneByOneInOrder() {
+        check.sentence("Terms", "each group, in order, gets the place at the least cost of those that rules allow"
+                + " and no group before has");
+        PutAwayAssign x = planning(Made.with(3, 3, 0), false);
+        Made.costs(x, 0, 2, 1, 3);
+        Made.costs(x, 1, 5, 0, 8);
+        Made.costs(x, 2, 1, 1, 1000000);
+        check.due("one by one", x.assign(Integer.MAX_VALUE), 1 + 5 + 1000000);
+        check.due("one by one", Made.plan(x), "1 0 2");
+        x.fits(0, 1, false);
+        x.block(2);
+        check.due("not where rules do not allow it", x.assign(Integer.MAX_VALUE), 2 + 0);
+        check.due("not where rules do not allow it", Made.plan(x), "0 1 -1");
         PutAwayAssign y = Made.with(12, 12, 0);
         for (int u = 0; u < 12; u++) {
             for (int p = 0; p < 12; p++) {
-                y.cost(u, p, 1000000 - (p > 11 - u ? 0 : p));
+                y.cost(u, p, 1000000 - p);
             }
         }
-        check.due("twelve one by one", y.assign(Integer.MAX_VALUE), 12000000 - 66);
+        check.due("twelve groups", y.assign(Integer.MAX_VALUE), 12000000 - 66);
+        check.due("twelve groups", Made.plan(y), "11 10 9 8 7 6 5 4 3 2 1 0");
     }
 
-    private static void promise10DoneUnitsStay() {
-        PutAwayAssign x = Made.with(3, 2, 0);
+    private static void oneByOneTheLowest() {
+        check.sentence("Terms", "of equal costs the lowest");
+        PutAwayAssign x = planning(Made.with(3, 4, 0), false);
+        for (int u = 0; u < 3; u++) {
+            Made.costs(x, u, 1, 0, 0, 1);
+        }
         x.assign(1000);
-        x.put(0);
-        check.due("without the done one", x.assign(1000), 80 + 90);
-        planIs("the place of the done one again", x, 0, 0, 1);
+        check.due("the lowest of equal ones", Made.plan(x), "1 2 0");
     }
 
-    private static void promise11At() {
-        PutAwayAssign x = Made.with(2, 1, 0);
-        check.due("at(0) before", x.at(0), -1);
+    private static void oneByOneOrNone() {
+        check.sentence("Terms", "or none");
+        PutAwayAssign x = planning(Made.with(3, 2, 0), false);
+        Made.onlyAt(x, 1, 0);
         x.assign(1000);
-        check.due("at(0) planned", x.at(0), 0);
-        check.due("at(1) without a place", x.at(1), -1);
-        x.unit(0, 1);
-        check.due("at(2) came later", x.at(2), -1);
-        x.put(0);
-        check.due("at(0) done", x.at(0), 0);
+        check.due("the only place of 1 is taken by 0", Made.plan(x), "0 -1 1");
         x.block(0);
-        check.due("at(0) done and blocked", x.at(0), 0);
-        check.refused("at(3)", NoSuchElementException.class, () -> x.at(3));
-        check.refused("at(-1)", NoSuchElementException.class, () -> x.at(-1));
-        check.refused("at the end", NoSuchElementException.class, () -> x.at(Integer.MAX_VALUE));
+        x.block(1);
+        check.due("no place at all", x.assign(0), 0);
+        check.due("no place at all", Made.plan(x), "-1 -1 -1");
+        PutAwayAssign y = Made.with(12, 0, 0);
+        check.due("twelve groups without places", y.assign(0), 0);
+        check.due("twelve groups without places", Made.plan(y), "-1 -1 -1 -1 -1 -1 -1 -1 -1 -1 -1 -1");
     }
 
-    private static void promise12Exact() {
-        PutAwayAssign x = Made.with(3, 3, 0);
-        check.due("exact() before", x.exact(), false);
-        x.assign(0);
-        check.due("exact() behind a plan that costs too much", x.exact(), false);
+    private static void promise10PlannedAnew() {
+        check.sentence("Promise 10", "All groups are planned anew");
+        for (int best = 0; best <= 1; best++) {
+            PutAwayAssign x = planning(Made.with(3, 3, 1), best == 1);
+            x.assign(1000);
+            check.due("at first", Made.plan(x), "0 1 2");
+            x.put(0);
+            x.fix(1, 1);
+            Made.onlyAt(x, 2, 0);
+            check.due("anew, and the done one stays", x.assign(1000), 80 + 91);
+            check.due("anew, and the done one stays", Made.plan(x), "0 1 0");
+            x.block(0);
+            x.open(0);
+            check.due("moved on to nowhere", Made.plan(x), "0 1 -1");
+            x.assign(1000);
+            check.due("planned again", Made.plan(x), "0 1 0");
+            Made.onlyAt(x, 1);
+            x.assign(1000);
+            check.due("planned no more", Made.plan(x), "0 -1 0");
+        }
+    }
+
+    private static void promise10NoMoreThanTheLimit() {
+        check.sentence("Promise 10", "best if there are no more of them than the limit, else one by one");
+        PutAwayAssign x = Made.with(4, 2, 0);
+        Made.onlyAt(x, 2);
+        Made.onlyAt(x, 3);
+        Made.costs(x, 0, 0, 1);
+        Made.costs(x, 1, 0, 90);
+        x.limits(3, 100);
+        check.due("four groups, limit 3", x.assign(1000), 90);
+        x.limits(4, 100);
+        check.due("four groups, limit 4", x.assign(1000), 1);
+        x.limits(3, 100);
+        x.together(2, 3);
+        check.due("four units in three groups, limit 3", x.assign(1000), 1);
+        x.limits(2, 100);
+        check.due("four units in three groups, limit 2", x.assign(1000), 90);
+        PutAwayAssign y = new PutAwayAssign();
+        y.limits(0, 100);
+        y.assign(0);
+        check.due("exact() of no groups, limit 0", y.exact(), true);
+        y.unit(0, 1);
+        y.assign(0);
+        check.due("exact() of one group, limit 0", y.exact(), false);
+        y.place(1, 0, 1, 0);
+        y.assign(0);
+        y.put(0);
+        y.assign(0);
+        check.due("exact() of one that is done, limit 0", y.exact(), true);
+    }
+
+    private static void promise10TheSum() {
+        check.sentence("Promise 10", "the sum of the costs");
+        for (int best = 0; best <= 1; best++) {
+            PutAwayAssign x = planning(Made.with(3, 2, 1), best == 1);
+            check.due("two places for three", x.assign(1000), 90 + 91);
+            x.together(0, 1);
+            check.due("a group costs once", x.assign(1000), 80 + 91);
+            x.put(0);
+            check.due("a done one costs nothing", x.assign(1000), 70);
+            x.put(2);
+            check.due("no groups", x.assign(1000), 0);
+        }
+    }
+
+    private static void promise10AboveMost() {
+        check.sentence("Promise 10", "-1, and all stays, if it is above most");
+        PutAwayAssign x = planning(Made.with(2, 2, 0), false);
+        Made.costs(x, 0, 5, 1);
+        Made.costs(x, 1, 7, 1);
+        check.due("one by one, one below", x.assign(7), -1);
+        check.due("nothing is planned", Made.plan(x), "-1 -1");
+        check.due("one by one, just so much", x.assign(8), 8);
+        check.due("one by one", Made.plan(x), "1 0");
+        planning(x, true);
+        check.due("best, one below", x.assign(5), -1);
+        check.due("the plan stays", Made.plan(x), "1 0");
+        check.due("exact() stays", x.exact(), false);
+        check.due("share() stays", x.share(0), 12);
+        check.due("best, just so much", x.assign(6), 6);
+        check.due("best", Made.plan(x), "0 1");
+        planning(x, false);
+        check.due("one by one, far below", x.assign(0), -1);
+        check.due("the best plan stays", Made.plan(x), "0 1");
+        check.due("exact() stays", x.exact(), true);
+        x.put(0);
+        x.unit(0, 10);
+        check.due("-1 with a done and a new one", x.assign(0), -1);
+        check.due("they stay", Made.plan(x), "0 1 -1");
+        check.due("at any cost", x.assign(Integer.MAX_VALUE) >= 0, true);
+    }
+
+    private static void promise10MostBelowZero() {
+        check.sentence("Promise 10", "IllegalArgumentException: most is below 0.");
+        PutAwayAssign x = new PutAwayAssign();
+        check.refused("assign(-1) of nothing", ARGUMENT, () -> x.assign(-1));
+        x.unit(0, 10);
+        x.place(1, 0, 10, 0);
+        check.refused("assign(-1)", ARGUMENT, () -> x.assign(-1));
+        check.refused("assign(least)", ARGUMENT, () -> x.assign(Integer.MIN_VALUE));
+        check.due("nothing is planned", x.at(0), -1);
+        check.due("exact()", x.exact(), false);
+        check.due("assign(0)", x.assign(0), 0);
+        x.fits(0, 0, false);
+        check.refused("assign(-1), planned", ARGUMENT, () -> x.assign(-1));
+        check.due("the plan stays", x.at(0), 0);
+    }
+
+    private static void promise11PlannedFor() {
+        check.sentence("Promise 11", "The place that a unit is planned for");
+        PutAwayAssign x = Made.with(2, 12, 0);
+        x.fix(0, 11);
         x.assign(1000);
-        check.due("exact() of a best plan", x.exact(), true);
+        check.due("the last place and the first one", Made.plan(x), "11 0");
+        x.block(11);
+        check.due("moved on to nowhere", Made.plan(x), "-1 0");
+        x.block(0);
+        check.due("moved on", Made.plan(x), "-1 1");
+    }
+
+    private static void promise11AtWhichItWasDone() {
+        check.sentence("Promise 11", "or at which it was done");
+        PutAwayAssign x = Made.with(3, 2, 0);
+        x.together(0, 2);
+        x.assign(1000);
+        x.put(2);
+        check.due("done, with its group", Made.plan(x), "0 1 0");
+        x.block(0);
+        x.fits(0, 0, false);
+        x.assign(1000);
+        check.due("it was done there, whatever comes", Made.plan(x), "0 1 0");
+        x.put(1);
+        x.assign(1000);
+        check.due("all are done", Made.plan(x), "0 1 0");
+    }
+
+    private static void promise11None() {
+        check.sentence("Promise 11", "-1 if none (as long as nothing was planned, too)");
+        PutAwayAssign x = Made.with(2, 1, 0);
+        check.due("nothing was planned", Made.plan(x), "-1 -1");
+        x.assign(0);
+        check.due("it cost too much", Made.plan(x), "-1 -1");
+        x.assign(1000);
+        check.due("no place for 1", Made.plan(x), "0 -1");
+        x.unit(0, 1);
+        check.due("2 came later", Made.plan(x), "0 -1 -1");
+    }
+
+    private static void promise11NoSuchUnit() {
+        check.sentence("Promise 11", "NoSuchElementException.");
+        PutAwayAssign x = Made.with(1, 2, 0);
+        int[] missing = {-1, 1, 12, Integer.MIN_VALUE, Integer.MAX_VALUE};
+        for (int unit : missing) {
+            check.refused("at(" + unit + ")", MISSING, () -> x.at(unit));
+        }
+        PutAwayAssign y = Made.with(12, 0, 0);
+        check.due("at(11)", y.at(11), -1);
+        check.refused("at(12), full", MISSING, () -> y.at(12));
+    }
+
+    private static void promise12MadeAsABestOne() {
+        check.sentence("Promise 12", "Whether the plan was made as a best one");
+        PutAwayAssign x = Made.with(3, 3, 0);
+        x.assign(1000);
+        check.due("made as a best one", x.exact(), true);
         x.block(0);
         x.together(1, 2);
         x.limits(0, 1);
-        check.due("exact() of how it was made", x.exact(), true);
+        check.due("it was, whatever came", x.exact(), true);
         x.assign(1000);
-        check.due("exact() of one by one", x.exact(), false);
+        check.due("made one by one, though it is as good", x.exact(), false);
+        x.limits(8, 1);
+        check.due("it was not", x.exact(), false);
+        x.assign(1000);
+        check.due("made as a best one again", x.exact(), true);
+    }
+
+    private static void promise12FalseBefore() {
+        check.sentence("Promise 12", "(false before)");
+        PutAwayAssign x = new PutAwayAssign();
+        check.due("new", x.exact(), false);
+        x.unit(0, 10);
+        x.place(1, 0, 100, 0);
+        check.due("nothing was planned", x.exact(), false);
+        x.assign(89);
+        check.due("it cost too much", x.exact(), false);
+        check.refused("assign(-1)", ARGUMENT, () -> x.assign(-1));
+        check.due("it was refused", x.exact(), false);
     }
 }
