@@ -22,6 +22,7 @@ public final class AskingTest {
         promise18RestsAreDropped();
         promise18DoneOrNotPlanned();
         promise18TheSumIsZero();
+        promise19NumbersOfTrips();
         promise19ByZonesThenByNumber();
         promise19TheSameZone();
         promise19RoomInTheCart();
@@ -170,7 +171,8 @@ public final class AskingTest {
     }
 
     private static void promise18OfAllPlannedGroups() {
-        check.sentence("Promise 18", "divided by the sum of that of all planned groups");
+        check.sentence("Promise 18", "A hundred times what a unit's group costs at the place that it is planned for,"
+                + " divided by the sum of that of all planned groups");
         PutAwayAssign x = Made.with(5, 4, 0);
         for (int u = 0; u < 4; u++) {
             x.fix(u, u);
@@ -293,6 +295,16 @@ public final class AskingTest {
         }
         x.assign(0);
         return x;
+    }
+
+    private static void promise19NumbersOfTrips() {
+        check.sentence("Promise 19", "The trip with which a planned unit goes (0, 1, ..)");
+        PutAwayAssign x = inZones(new int[] {3, 3, 3, 1, 1, 1, 3, 3, 3, 1, 1, 1},
+                new int[] {2, 2, 2, 2, 2, 2, 2, 2, 2, 2, 2, 2});
+        check.due("no trip to zones 0 and 2", Made.trips(x), "1 1 1 0 0 0 1 1 1 0 0 0");
+        x.limits(6, 3);
+        check.due("each with a trip of its own", Made.trips(x), "6 7 8 0 1 2 9 10 11 3 4 5");
+        check.due("each asked again", Made.trips(x), "6 7 8 0 1 2 9 10 11 3 4 5");
     }
 
     private static void promise19ByZonesThenByNumber() {

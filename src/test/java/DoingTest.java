@@ -152,7 +152,8 @@ public final class DoingTest {
     }
 
     private static void promise16TheLeastCost() {
-        check.sentence("Promise 16", "gets the place at the least cost of those");
+        check.sentence("Promise 16", "the group that is planned for it, if one is, gets the place at the least cost"
+                + " of those");
         PutAwayAssign x = Made.with(3, 6, 0);
         x.together(0, 2);
         x.fix(0, 0);

@@ -65,13 +65,13 @@ public final class EntriesTest {
 
     private static void promise1EachObjectOnItsOwn() {
         check.sentence("Promise 1", "A new object");
-        PutAwayAssign used = Made.with(12, 12, 1);
-        used.weight(0, 100);
-        used.limits(0, 1);
-        used.assign(100000);
-        used.put(0);
         PutAwayAssign x = Made.with(1, 1, 0);
         x.place(1, 0, 10, 1);
+        PutAwayAssign other = Made.with(12, 12, 1);
+        other.weight(0, 100);
+        other.limits(0, 1);
+        other.assign(100000);
+        other.put(0);
         check.due("its numbers, weight and limits are its own", x.assign(1000), 1);
         check.due("exact() of its own", x.exact(), true);
         check.due("count(3) of its own", x.count(3), 0);
@@ -123,6 +123,10 @@ public final class EntriesTest {
         check.due("its zone", x.told(0, 1), 3);
         check.due("it is not blocked", x.told(0, 2), 0);
         check.due("no group is planned for it", x.told(0, 3), -1);
+        PutAwayAssign y = Made.with(2, 1, 1);
+        y.assign(1000);
+        y.place(1, 0, 10, 0);
+        check.due("the plan stays behind a new place", Made.plan(y), "0 -1");
     }
 
     private static void promise3OutsideItsRange() {

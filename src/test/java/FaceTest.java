@@ -33,6 +33,7 @@ public final class FaceTest {
     private static final Check check = new Check("FaceTest");
 
     public static void main(String[] args) {
+        check.sentence("The public face", "public final class PutAwayAssign");
         check.due("the class", Modifier.toString(PutAwayAssign.class.getModifiers()), "public final");
         constructors();
         methods();

@@ -15,6 +15,7 @@ public final class PlanTest {
         theLeastSum();
         theLeastSumOfLargeCosts();
         theFirstOfEqualPlans();
+        theFirstGroupBeforeAllOthers();
         noneIsBehindAll();
         thenTheNextOne();
         oneByOneInOrder();
@@ -182,6 +183,22 @@ public final class PlanTest {
         x.cost(0, 0, 4);
         check.due("a lower place, but dearer by one", x.assign(1000), 6);
         check.due("a lower place, but dearer by one", Made.plan(x), "1 0");
+    }
+
+    /** All groups but the first would stand lower if the first one stood at place 1. */
+    private static void theFirstGroupBeforeAllOthers() {
+        check.sentence("Terms", "of such ones the first: the first group gets as low a place as possible");
+        PutAwayAssign x = Made.with(5, 12, 0);
+        Made.onlyAt(x, 0, 0, 1);
+        Made.onlyAt(x, 1, 0);
+        Made.onlyAt(x, 2, 2, 11);
+        Made.onlyAt(x, 3, 1, 11);
+        Made.onlyAt(x, 4, 2);
+        check.due("four of five groups", x.assign(1000), 360);
+        check.due("the first group at place 0", Made.plan(x), "0 -1 11 1 2");
+        x.fits(0, 0, false);
+        check.due("four of five groups again", x.assign(1000), 360);
+        check.due("the first group not at place 0", Made.plan(x), "1 0 2 11 -1");
     }
 
     private static void noneIsBehindAll() {
@@ -442,8 +459,16 @@ public final class PlanTest {
         PutAwayAssign x = Made.with(3, 3, 0);
         x.assign(1000);
         check.due("made as a best one", x.exact(), true);
-        x.block(0);
+        x.put(0);
+        x.block(1);
+        x.open(1);
         x.together(1, 2);
+        x.unit(0, 1);
+        x.place(1, 0, 1, 0);
+        x.fix(1, 1);
+        x.fits(1, 1, false);
+        x.cost(1, 1, 1000);
+        x.weight(0, 100);
         x.limits(0, 1);
         check.due("it was, whatever came", x.exact(), true);
         x.assign(1000);

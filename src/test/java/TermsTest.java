@@ -22,6 +22,7 @@ public final class TermsTest {
         weightsAtFirst();
         orderOfGroups();
         doneUnitsAreInNoGroup();
+        rulesByRank();
         rule1();
         rule2();
         rule3();
@@ -254,6 +255,27 @@ public final class TermsTest {
         check.due("assign() of 1 alone", x.assign(1000), 70);
         check.due("all at place 0", Made.plan(x), "0 0 0");
         check.due("the group planned for the place is 1", x.told(0, 3), 1);
+    }
+
+    /** One place that breaks any of the rules, and one that is blocked, so that the first rule leaves the other. */
+    private static void rulesByRank() {
+        check.sentence("Terms", "RULES for a group at a place, by rank");
+        for (int broken = 0; broken < 32; broken++) {
+            PutAwayAssign x = new PutAwayAssign();
+            x.unit((broken & 2) != 0 ? 1 : 0, (broken & 8) != 0 ? 11 : 10);
+            x.place(1, 0, 10, 0);
+            x.place(1, 0, 10, 0);
+            x.block(1);
+            if ((broken & 1) != 0) {
+                x.block(0);
+            }
+            x.fits(0, 0, (broken & 4) == 0);
+            x.fix(0, (broken & 16) != 0 ? 1 : 0);
+            int first = broken == 0 ? 0 : Integer.numberOfTrailingZeros(broken) + 1;
+            check.due("barred(0) by rules " + Integer.toBinaryString(broken), x.barred(0), first);
+            x.assign(1000);
+            check.due("at(0) by rules " + Integer.toBinaryString(broken), x.at(0), broken == 0 ? 0 : -1);
+        }
     }
 
     private static void rule1() {
