@@ -602,6 +602,8 @@ public final class PutAwayAssign {
         private static final long WITHOUT = ROWS * (long) MOST_COST + 1;
         /** Dearer than to go without a place, which each row always can: so no best plan has it. */
         private static final long FORBIDDEN = WITHOUT + 1;
+        /** Farther than any column: a price and the shifts of eight rows, each at most a price, stay far below. */
+        private static final long UNMEASURED = 1L << 62;
 
         private final long[][] prices = new long[ROWS + 1][COLUMNS + 1];
         private final long[] rowShift = new long[ROWS + 1];
@@ -663,7 +665,7 @@ public final class PutAwayAssign {
         /** Finds the cheapest chain of rows that move on until a free column, and moves them. */
         private void giveColumn(int row) {
             for (int column = 0; column <= COLUMNS; column++) {
-                distance[column] = Long.MAX_VALUE;
+                distance[column] = UNMEASURED;
                 reached[column] = false;
             }
             rowWith[0] = row;
